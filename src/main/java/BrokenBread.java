@@ -29,7 +29,6 @@ public final class BrokenBread {
     private static final int MOST_BRACKETS = 8;
     private static final int MOST_NUMBER = 1000;
     private static final int MOST_TIMES = 20;
-    private static final int MOST_SUMS = 3;
     private static final int BROKEN = 2000000000;
     private static final int FARTHEST = 1000000000;
 
@@ -86,6 +85,14 @@ public final class BrokenBread {
     private static final int AT = 286;
 
     // Where a LAW's words stand in the row of what they mean: as from "doer" to "mood" above.
+    private static final int LAW_DOER = 0;
+    private static final int LAW_OTHER = 1;
+    private static final int LAW_WEIGHT = 2;
+    private static final int LAW_AGE = 3;
+    private static final int LAW_FED = 4;
+    private static final int LAW_SIZE = 5;
+    private static final int LAW_DAY = 6;
+    private static final int LAW_MOOD = 7;
     private static final int LAW_WORDS = 8;
 
     // Where the words of ORDERS stand in theirs: "day", "done" .. "starving", "fed" 0 .. 6, "at" 0 .. 6.
@@ -109,13 +116,13 @@ public final class BrokenBread {
     private final Reader reader = new Reader();
     private final Judge judge = new Judge(live);
     private final Seating seating = new Seating();
-    private final Parting parting = new Parting();
+    private final Parting parting = new Parting(seating);
+    private final Draws draws = new Draws();
     private final int[] orderWords = new int[ORDER_WORDS];
     private final long[] tripped = new long[MOST_TRIPPED];
     private final int[] refusedBy = new int[REFUSALS];
     private boolean seasonKept = false;
     private int rowCrumbs = 0;
-    private int textFault = NONE;
     private int clauseStopped = NONE;
     private int latestStatus = 0;
 
@@ -239,7 +246,7 @@ public final class BrokenBread {
             tape.length = 0;
             return told(NO_ROOM);
         }
-        if (!readText(false)) {
+        if (!reader.readWhole(tape, false)) {
             return told(BAD_TEXT);
         }
         int number = live.lawCount;
@@ -250,22 +257,28 @@ public final class BrokenBread {
 
     public int orders() {
         clauseStopped = NONE;
-        if (!readText(true)) {
+        if (!reader.readWhole(tape, true)) {
             return told(BAD_TEXT);
         }
         ahead.become(live);
         pastAhead.become(past);
         askLive();
-        int run = runOrders(reader.draft);
-        if (run < 0) {
-            live.become(ahead);
-            past.become(pastAhead);
+        orderWords[ORDER_DONE] = 0;
+        orderWords[ORDER_LATEST] = NONE;
+        fillOrderWords(reader.draft.usesAt);
+        for (int clause = 0; clause < reader.draft.clauses; clause++) {
+            if (!ranClause(reader.draft, clause)) {
+                live.become(ahead);
+                past.become(pastAhead);
+                clauseStopped = clause;
+                return told(CANT_BE);
+            }
         }
-        return told(run);
+        return told(orderWords[ORDER_DONE]);
     }
 
     public int fault() {
-        return textFault;
+        return reader.place;
     }
 
     public int stopped() {
@@ -315,14 +328,14 @@ public final class BrokenBread {
 
     public int tables(int what) {
         lookLive();
-        parting.intoTables(seating);
+        parting.intoTables();
         return parting.answer(what);
     }
 
     public int newHarms(int what) {
         lookLive();
         seating.lookAtBars(judge);
-        parting.intoSets(seating);
+        parting.intoSets();
         return parting.answer(what);
     }
 
@@ -332,20 +345,15 @@ public final class BrokenBread {
     }
 
     public int seat(int set, int i) {
-        if (!live.hasSet(set) || i < 0) {
+        if (!live.hasSet(set) || i < 0 || i >= Integer.bitCount(set)) {
             return NONE;
         }
         askLive();
         int left = set;
-        int who = NONE;
-        for (int k = 0; k <= i; k++) {
-            who = mostHurt(left, set);
-            if (who == NONE) {
-                return NONE;
-            }
-            left &= ~(1 << who);
+        for (int k = 0; k < i; k++) {
+            left &= ~(1 << mostHurt(left, set));
         }
-        return who;
+        return mostHurt(left, set);
     }
 
     public int chain(int from, int to, int i) {
@@ -486,9 +494,9 @@ public final class BrokenBread {
         season.become(live);
         seasonKept = true;
         judge.look(season, season.lawOf(season.inForce));
-        Draws draws = new Draws(seed);
+        draws.begin(seed);
         for (int k = 0; k < n && season.term[DAY] < LAST_DAY; k++) {
-            oneSeason(draws);
+            oneSeason();
         }
         return told(season.starving());
     }
@@ -616,13 +624,6 @@ public final class BrokenBread {
         return true;
     }
 
-    private boolean readText(boolean ofOrders) {
-        boolean whole = reader.readWhole(tape, ofOrders);
-        tape.length = 0;
-        textFault = reader.place;
-        return whole;
-    }
-
     private int doHarm(int one, int other, int weight) {
         if (weight < 1 || weight > MOST_WEIGHT || one == other) {
             return BAD_NUMBER;
@@ -679,51 +680,44 @@ public final class BrokenBread {
         return live.starving();
     }
 
-    /** How many were run, or CANT_BE; then all that was run is still there for the caller to take back. */
-    private int runOrders(Script script) {
-        orderWords[ORDER_DONE] = 0;
-        orderWords[ORDER_LATEST] = NONE;
-        for (int clause = 0; clause < script.clauses; clause++) {
-            int times = script.timesOf(clause);
-            for (int k = 0; k < times; k++) {
-                fillOrderWords(script.usesAt);
-                if (!judge.isSo(script, clause, orderWords)) {
-                    continue;
+    /** False: one can't be; what was run ahead of it still stands then, for the caller to take back. */
+    private boolean ranClause(Script script, int clause) {
+        int times = script.headOf(clause, Script.HOW_OFTEN);
+        for (int k = 0; k < times; k++) {
+            if (judge.tell(script, script.headOf(clause, Script.TEST), orderWords) == 1) {
+                int first = judge.tell(script, script.headOf(clause, Script.SUMS), orderWords);
+                int second = judge.tell(script, script.headOf(clause, Script.SUMS + 1), orderWords);
+                int third = judge.tell(script, script.headOf(clause, Script.SUMS + 2), orderWords);
+                if (first == BROKEN || second == BROKEN || third == BROKEN) {
+                    return false;
                 }
-                int answer = runOnce(script, clause);
+                int answer = NONE;
+                switch (script.headOf(clause, Script.KIND)) {
+                    case HARM:
+                        answer = doHarm(first, second, third);
+                        break;
+                    case FEAST:
+                        answer = doFeast(first);
+                        orderWords[ORDER_LATEST] = answer;
+                        break;
+                    case PARDON:
+                        answer = doPardon(first, second);
+                        break;
+                    default:
+                        answer = doPass();
+                        break;
+                }
                 if (answer < 0) {
-                    clauseStopped = clause;
-                    return CANT_BE;
+                    return false;
                 }
                 orderWords[ORDER_DONE]++;
-                if (script.kindOf(clause) == FEAST) {
-                    orderWords[ORDER_LATEST] = answer;
-                }
+                fillOrderWords(script.usesAt);
             }
         }
-        return orderWords[ORDER_DONE];
+        return true;
     }
 
-    private int runOnce(Script script, int clause) {
-        int first = judge.sumOf(script, clause, 0, orderWords);
-        int second = judge.sumOf(script, clause, 1, orderWords);
-        int third = judge.sumOf(script, clause, 2, orderWords);
-        if (first == BROKEN || second == BROKEN || third == BROKEN) {
-            return CANT_BE;
-        }
-        switch (script.kindOf(clause)) {
-            case HARM:
-                return doHarm(first, second, third);
-            case FEAST:
-                return doFeast(first);
-            case PARDON:
-                return doPardon(first, second);
-            default:
-                return doPass();
-        }
-    }
-
-    /** Who MAY sit with whom is dear, so it is asked only for a TEXT that says "at". */
+    /** Anew behind each one that was run; who MAY sit with whom is dear, and asked only if a TEXT says "at". */
     private void fillOrderWords(boolean withAt) {
         orderWords[ORDER_DAY] = live.term[DAY];
         orderWords[ORDER_HARMS] = live.harmCount();
@@ -759,7 +753,7 @@ public final class BrokenBread {
         }
     }
 
-    private void oneSeason(Draws draws) {
+    private void oneSeason() {
         int one = draws.next(season.folks);
         int other = draws.next(season.folks);
         int weight = draws.next(9) + 1;
@@ -786,9 +780,9 @@ public final class BrokenBread {
 
     /** The DRAWS of SEASONS. */
     private static final class Draws {
-        private long s;
+        private long s = 0L;
 
-        Draws(int seed) {
+        void begin(int seed) {
             s = seed;
         }
 
@@ -836,7 +830,7 @@ public final class BrokenBread {
         }
 
         boolean hasTwo(int one, int other) {
-            return has(one) && has(other) && one != other;
+            return one >= 0 && one < folks && other >= 0 && other < folks && one != other;
         }
 
         boolean hasSet(int set) {
@@ -935,8 +929,7 @@ public final class BrokenBread {
 
         void keep(int kind, int one, int other, Upland land) {
             if (kept >= MOST_KEPT) {
-                System.arraycopy(deeds, WIDTH, deeds, 0, (MOST_KEPT - 1) * WIDTH);
-                kept = MOST_KEPT - 1;
+                forgetOldest();
             }
             int from = kept * WIDTH;
             deeds[from + KIND] = kind;
@@ -947,6 +940,13 @@ public final class BrokenBread {
             deeds[from + THEN] = land.term[DAY];
             System.arraycopy(land.fed, 0, deeds, from + FED, MOST_FOLK);
             kept++;
+        }
+
+        private void forgetOldest() {
+            for (int i = WIDTH; i < MOST_KEPT * WIDTH; i++) {
+                deeds[i - WIDTH] = deeds[i];
+            }
+            kept = MOST_KEPT - 1;
         }
 
         int undoLatest(Upland land) {
@@ -1059,29 +1059,14 @@ public final class BrokenBread {
             }
         }
 
-        private int headOf(int clause, int what) {
+        int headOf(int clause, int what) {
             int at = clause * WIDTH + what;
-            return clause >= 0 && clause < clauses && at < heads.length ? heads[at] : NONE;
-        }
-
-        int kindOf(int clause) {
-            return headOf(clause, KIND);
-        }
-
-        int timesOf(int clause) {
-            return headOf(clause, HOW_OFTEN);
-        }
-
-        int testOf(int clause) {
-            return headOf(clause, TEST);
-        }
-
-        int sumStart(int clause, int which) {
-            return which >= 0 && which < MOST_SUMS ? headOf(clause, SUMS + which) : NONE;
+            boolean there = clause >= 0 && clause < clauses && what >= 0 && what < WIDTH && at < heads.length;
+            return there ? heads[at] : NONE;
         }
     }
 
-    /** Reads a TAPE into a draft; place is its FAULT. */
+    /** Reads a TAPE, which is empty then, into a draft; place is its FAULT. */
     private static final class Reader {
         private static final int MOST_TOKENS = MOST_BYTES + 1;
 
@@ -1092,22 +1077,25 @@ public final class BrokenBread {
         private final Script draft = new Script(MOST_CLAUSES, MOST_BYTES + 4 * MOST_CLAUSES);
         private int tokens = 0;
         private int at = 0;
+        private int now = TEXT_END;
+        private int nowValue = 0;
         private int parts = 0;
         private boolean ofOrders = false;
         private int place = NONE;
 
         boolean readWhole(Tape tape, boolean asOrders) {
             split(tape);
+            tape.length = 0;
             draft.clear();
-            at = 0;
             parts = 0;
             ofOrders = asOrders;
             place = NONE;
+            goTo(0);
             for (int clause = 0; clause < MOST_CLAUSES; clause++) {
                 if (!readClause()) {
                     return false;
                 }
-                if (isNow(TEXT_END)) {
+                if (now == TEXT_END) {
                     return true;
                 }
                 if (!took(';')) {
@@ -1191,39 +1179,33 @@ public final class BrokenBread {
             return true;
         }
 
-        private int now() {
-            return at >= 0 && at < tokens ? kinds[at] : TEXT_END;
-        }
-
-        private int nowValue() {
-            return at >= 0 && at < tokens ? values[at] : 0;
-        }
-
-        private boolean isNow(int kind) {
-            return now() == kind;
+        /** Behind the last TOKEN there is nothing but the end again. */
+        private void goTo(int token) {
+            at = Math.max(0, Math.min(token, tokens - 1));
+            now = kinds[at];
+            nowValue = values[at];
         }
 
         private boolean failed() {
-            place = at >= 0 && at < tokens ? places[at] : 0;
+            place = places[at];
             return false;
         }
 
         private boolean took(int kind) {
-            if (!isNow(kind)) {
+            if (now != kind) {
                 return failed();
             }
-            at++;
+            goTo(at + 1);
             return true;
         }
 
         private boolean readClause() {
-            int kind = now();
-            int sums = sumsOf(kind);
+            int sums = sumsOf(now);
             if (sums == NONE) {
                 return failed();
             }
-            at++;
-            draft.open(kind);
+            draft.open(now);
+            goTo(at + 1);
             for (int k = 0; k < sums; k++) {
                 if (k > 0 && !took(k == 1 ? TO : BY)) {
                     return false;
@@ -1234,7 +1216,18 @@ public final class BrokenBread {
                 }
                 draft.put(Script.STOP, 0);
             }
-            return readTimes() && readIf();
+            if (now == TIMES && ofOrders && !readTimes()) {
+                return false;
+            }
+            if (now == IF) {
+                goTo(at + 1);
+                draft.mark(Script.TEST, draft.length);
+                if (!readTest(0)) {
+                    return false;
+                }
+                draft.put(Script.STOP, 0);
+            }
+            return true;
         }
 
         /** How many SUMS a CLAUSE of that kind has; NONE: this language has no such CLAUSE. */
@@ -1260,29 +1253,12 @@ public final class BrokenBread {
         }
 
         private boolean readTimes() {
-            if (!ofOrders || !isNow(TIMES)) {
-                return true;
-            }
-            at++;
-            int times = nowValue();
-            if (!isNow(NUMBER) || times < 1 || times > MOST_TIMES) {
+            goTo(at + 1);
+            if (now != NUMBER || nowValue < 1 || nowValue > MOST_TIMES) {
                 return failed();
             }
-            at++;
-            draft.mark(Script.HOW_OFTEN, times);
-            return true;
-        }
-
-        private boolean readIf() {
-            if (!isNow(IF)) {
-                return true;
-            }
-            at++;
-            draft.mark(Script.TEST, draft.length);
-            if (!readTest(0)) {
-                return false;
-            }
-            draft.put(Script.STOP, 0);
+            draft.mark(Script.HOW_OFTEN, nowValue);
+            goTo(at + 1);
             return true;
         }
 
@@ -1290,10 +1266,10 @@ public final class BrokenBread {
             if (!readBoth(depth)) {
                 return false;
             }
-            for (int k = 0; k < MOST_TOKENS && isNow(OR); k++) {
+            for (int k = 0; k < MOST_TOKENS && now == OR; k++) {
                 int skip = draft.length;
-                at++;
                 draft.put(OR, 0);
+                goTo(at + 1);
                 if (!readBoth(depth)) {
                     return false;
                 }
@@ -1306,10 +1282,10 @@ public final class BrokenBread {
             if (!readPlain(depth)) {
                 return false;
             }
-            for (int k = 0; k < MOST_TOKENS && isNow(AND); k++) {
+            for (int k = 0; k < MOST_TOKENS && now == AND; k++) {
                 int skip = draft.length;
-                at++;
                 draft.put(AND, 0);
+                goTo(at + 1);
                 if (!readPlain(depth)) {
                     return false;
                 }
@@ -1321,15 +1297,15 @@ public final class BrokenBread {
         /** Rows of "not" are counted, not gone into: a TAPE has room for a hundred of them. */
         private boolean readPlain(int depth) {
             boolean turned = false;
-            for (int k = 0; k < MOST_TOKENS && isNow(NOT); k++) {
+            for (int k = 0; k < MOST_TOKENS && now == NOT; k++) {
                 turned = !turned;
-                at++;
+                goTo(at + 1);
             }
-            if (isNow('(')) {
+            if (now == '(') {
                 if (depth >= MOST_BRACKETS) {
                     return failed();
                 }
-                at++;
+                goTo(at + 1);
                 if (!readTest(depth + 1) || !took(')')) {
                     return false;
                 }
@@ -1346,11 +1322,11 @@ public final class BrokenBread {
             if (!readSum(depth)) {
                 return false;
             }
-            int sign = now();
+            int sign = now;
             if (sign != '<' && sign != '>' && sign != '=') {
                 return failed();
             }
-            at++;
+            goTo(at + 1);
             if (!readSum(depth)) {
                 return false;
             }
@@ -1362,9 +1338,9 @@ public final class BrokenBread {
             if (!readTerm(depth)) {
                 return false;
             }
-            for (int k = 0; k < MOST_TOKENS && (isNow('+') || isNow('-')); k++) {
-                int sign = now();
-                at++;
+            for (int k = 0; k < MOST_TOKENS && (now == '+' || now == '-'); k++) {
+                int sign = now;
+                goTo(at + 1);
                 if (!readTerm(depth)) {
                     return false;
                 }
@@ -1377,9 +1353,9 @@ public final class BrokenBread {
             if (!readPart(depth)) {
                 return false;
             }
-            for (int k = 0; k < MOST_TOKENS && (isNow('*') || isNow('/') || isNow('%')); k++) {
-                int sign = now();
-                at++;
+            for (int k = 0; k < MOST_TOKENS && (now == '*' || now == '/' || now == '%'); k++) {
+                int sign = now;
+                goTo(at + 1);
                 if (!readPart(depth)) {
                     return false;
                 }
@@ -1389,63 +1365,54 @@ public final class BrokenBread {
         }
 
         private boolean readPart(int depth) {
-            if (isNow('[')) {
+            if (now == '[') {
                 if (depth >= MOST_BRACKETS) {
                     return failed();
                 }
-                at++;
+                goTo(at + 1);
                 return readSum(depth + 1) && took(']');
             }
             if (parts >= MOST_PARTS) {
                 return failed();
             }
             parts++;
-            if (isNow(NUMBER)) {
-                if (nowValue() > MOST_NUMBER) {
-                    return failed();
-                }
-                draft.put(NUMBER, nowValue());
-                at++;
-                return true;
+            if (now != NUMBER) {
+                return ofOrders ? readOrderWord() : readLawWord();
             }
-            return ofOrders ? readOrderWord() : readLawWord();
+            if (nowValue > MOST_NUMBER) {
+                return failed();
+            }
+            draft.put(NUMBER, nowValue);
+            goTo(at + 1);
+            return true;
         }
 
         private boolean readLawWord() {
-            int word = now();
-            if (word < DOER || word > MOOD_WORD) {
+            if (now < DOER || now > MOOD_WORD) {
                 return failed();
             }
-            at++;
-            draft.put(Script.WORD, word - DOER);
+            draft.put(Script.WORD, now - DOER);
+            goTo(at + 1);
             return true;
         }
 
         private boolean readOrderWord() {
-            int word = now();
+            int word = now;
             if (word == FED_WORD || word == AT) {
-                at++;
-                return readWhom(word);
-            }
-            if (word == DAY_WORD) {
+                goTo(at + 1);
+                if (now != NUMBER || nowValue >= MOST_FOLK) {
+                    return failed();
+                }
+                draft.put(Script.WORD, (word == AT ? ORDER_AT : ORDER_FED) + nowValue);
+                draft.usesAt = draft.usesAt || word == AT;
+            } else if (word == DAY_WORD) {
                 draft.put(Script.WORD, ORDER_DAY);
             } else if (word >= DONE && word <= STARVING) {
                 draft.put(Script.WORD, ORDER_DONE + word - DONE);
             } else {
                 return failed();
             }
-            at++;
-            return true;
-        }
-
-        private boolean readWhom(int word) {
-            int whom = nowValue();
-            if (!isNow(NUMBER) || whom >= MOST_FOLK) {
-                return failed();
-            }
-            at++;
-            draft.put(Script.WORD, (word == AT ? ORDER_AT : ORDER_FED) + whom);
-            draft.usesAt = draft.usesAt || word == AT;
+            goTo(at + 1);
             return true;
         }
     }
@@ -1472,20 +1439,24 @@ public final class BrokenBread {
 
         int countsOf(int doer, int other) {
             knowTwo(doer, other);
-            int tells = lastThatHolds(COUNTS);
-            return tells == BROKEN ? land.weightOf(doer, other) : nearest(tells);
+            return tellsLaw(COUNTS, lawWords[LAW_WEIGHT]);
         }
 
         boolean isBarred(int doer, int other) {
             knowTwo(doer, other);
-            return lastThatHolds(BARS) != BROKEN;
+            return tellsLaw(BARS, NONE) != NONE;
         }
 
         boolean maySit(int one, int other) {
-            if (!land.hasTwo(one, other) || countsOf(one, other) + countsOf(other, one) <= 0) {
+            if (one == other) {
                 return false;
             }
-            return !isBarred(one, other) && !isBarred(other, one);
+            knowTwo(one, other);
+            boolean barred = tellsLaw(BARS, NONE) != NONE;
+            int counted = tellsLaw(COUNTS, lawWords[LAW_WEIGHT]);
+            knowTwo(other, one);
+            barred = barred || tellsLaw(BARS, NONE) != NONE;
+            return !barred && counted + tellsLaw(COUNTS, lawWords[LAW_WEIGHT]) > 0;
         }
 
         int companions(int p) {
@@ -1499,9 +1470,6 @@ public final class BrokenBread {
         }
 
         boolean isTable(int set) {
-            if (!land.hasSet(set) || Integer.bitCount(set) < 2) {
-                return false;
-            }
             for (int p = 0; p < MOST_FOLK; p++) {
                 for (int q = p + 1; q < MOST_FOLK; q++) {
                     if ((set >> p & set >> q & 1) == 1 && !maySit(p, q)) {
@@ -1509,7 +1477,7 @@ public final class BrokenBread {
                     }
                 }
             }
-            return true;
+            return Integer.bitCount(set) >= 2;
         }
 
         int sufferedBy(int p, int set) {
@@ -1524,8 +1492,7 @@ public final class BrokenBread {
 
         int hungerOf(int p, int fed, int day) {
             knowOne(p, fed, NONE, day);
-            int tells = lastThatHolds(HUNGERS);
-            return tells == BROKEN ? 1 : nearest(tells);
+            return tellsLaw(HUNGERS, 1);
         }
 
         /** What a meal FEEDS asks of nobody but the one who eats, so each may eat at once. */
@@ -1534,13 +1501,12 @@ public final class BrokenBread {
             for (int p = 0; p < land.folks; p++) {
                 if ((set >> p & 1) == 1) {
                     knowOne(p, land.fed[p], size, land.term[DAY]);
-                    int tells = lastThatHolds(FEEDS);
-                    int meal = tells == BROKEN ? 2 : nearest(tells);
-                    land.fed[p] = Math.min(MOST_FED, land.fed[p] + meal);
+                    land.fed[p] = Math.min(MOST_FED, land.fed[p] + tellsLaw(FEEDS, 2));
                 }
             }
         }
 
+        /** How one HUNGERS asks of nobody else either. */
         void passDay() {
             for (int p = 0; p < land.folks; p++) {
                 land.fed[p] = Math.max(0, land.fed[p] - hungerOf(p, land.fed[p], land.term[DAY]));
@@ -1548,59 +1514,52 @@ public final class BrokenBread {
             land.term[DAY]++;
         }
 
-        /** Whether the "if" of a CLAUSE is so, or it has none; one that is BROKEN is not so. */
-        boolean isSo(Script script, int clause, int[] words) {
-            int test = script.testOf(clause);
-            return test == NONE || tell(script, test, words) == 1;
-        }
-
-        /** 0 for a SUM that the CLAUSE has not. */
-        int sumOf(Script script, int clause, int which, int[] words) {
-            int sum = script.sumStart(clause, which);
-            return sum == NONE ? 0 : tell(script, sum, words);
-        }
-
-        private static int nearest(int tells) {
-            return Math.max(0, Math.min(9, tells));
-        }
-
         private void knowTwo(int doer, int other) {
-            int weight = land.weightOf(doer, other);
-            knowOne(doer, land.fedOf(doer), NONE, land.term[DAY]);
-            lawWords[1] = other;
-            lawWords[2] = weight;
-            lawWords[3] = weight > 0 ? land.term[DAY] - land.sinceOf(doer, other) : NONE;
+            boolean there = land.hasTwo(doer, other);
+            int harm = there ? doer * MOST_FOLK + other : 0;
+            int weight = there ? land.weight[harm] : 0;
+            knowOne(doer, there ? land.fed[doer] : NONE, NONE, land.term[DAY]);
+            lawWords[LAW_OTHER] = other;
+            lawWords[LAW_WEIGHT] = weight;
+            lawWords[LAW_AGE] = weight > 0 ? land.term[DAY] - land.since[harm] : NONE;
         }
 
         private void knowOne(int doer, int fed, int size, int day) {
-            lawWords[0] = doer;
-            lawWords[1] = NONE;
-            lawWords[2] = NONE;
-            lawWords[3] = NONE;
-            lawWords[4] = fed;
-            lawWords[5] = size;
-            lawWords[6] = day;
-            lawWords[7] = land.term[MOOD];
+            lawWords[LAW_DOER] = doer;
+            lawWords[LAW_OTHER] = NONE;
+            lawWords[LAW_WEIGHT] = NONE;
+            lawWords[LAW_AGE] = NONE;
+            lawWords[LAW_FED] = fed;
+            lawWords[LAW_SIZE] = size;
+            lawWords[LAW_DAY] = day;
+            lawWords[LAW_MOOD] = land.term[MOOD];
         }
 
-        /** What the last CLAUSE of a kind that HOLDS tells; BROKEN: none does. */
-        private int lastThatHolds(int kind) {
+        /** 0 .. 9 as the last CLAUSE of a kind that HOLDS tells; as it is without, if none does. */
+        private int tellsLaw(int kind, int without) {
             if (law == null) {
-                return BROKEN;
+                return without;
             }
             for (int clause = law.clauses - 1; clause >= 0; clause--) {
-                if (law.kindOf(clause) == kind && isSo(law, clause, lawWords)) {
-                    int tells = sumOf(law, clause, 0, lawWords);
+                if (law.headOf(clause, Script.KIND) == kind
+                        && tell(law, law.headOf(clause, Script.TEST), lawWords) == 1) {
+                    int tells = tell(law, law.headOf(clause, Script.SUMS), lawWords);
                     if (tells != BROKEN) {
-                        return tells;
+                        return Math.max(0, Math.min(9, tells));
                     }
                 }
             }
-            return BROKEN;
+            return without;
         }
 
-        /** A SUM's number, a TEST's 1 or 0; whatever is BROKEN on the way breaks the whole. */
-        private int tell(Script script, int from, int[] words) {
+        /**
+         * A SUM's number, a TEST's 1 or 0; whatever is BROKEN on the way breaks the whole. What a CLAUSE has
+         * not (NONE) is 1: a TEST that is not there is so, and nobody asks for a SUM's number then.
+         */
+        int tell(Script script, int from, int[] words) {
+            if (from == NONE) {
+                return 1;
+            }
             int top = 0;
             int at = from;
             for (int step = 0; step < script.length && at >= 0 && at < script.length; step++) {
@@ -1951,7 +1910,7 @@ public final class BrokenBread {
 
     /** Tries all partings of the FOLK in the order of their rows of numbers; keeps the first of the cheapest. */
     private static final class Parting {
-        private Seating seating = null;
+        private final Seating seating;
         private boolean tablesOnly = false;
         private int folks = 0;
         private int cheapest = NONE;
@@ -1959,14 +1918,18 @@ public final class BrokenBread {
         private final int[] numbers = new int[MOST_FOLK];
         private final int[] first = new int[MOST_FOLK];
 
-        void intoTables(Seating now) {
-            tablesOnly = true;
-            begin(now);
+        Parting(Seating asked) {
+            seating = asked;
         }
 
-        void intoSets(Seating now) {
+        void intoTables() {
+            tablesOnly = true;
+            begin();
+        }
+
+        void intoSets() {
             tablesOnly = false;
-            begin(now);
+            begin();
         }
 
         int answer(int what) {
@@ -1976,9 +1939,8 @@ public final class BrokenBread {
             return what == 0 ? cheapest : first[what - 1];
         }
 
-        private void begin(Seating now) {
-            seating = now;
-            folks = now.folks;
+        private void begin() {
+            folks = seating.folks;
             cheapest = NONE;
             place(0, 0, 0);
         }
