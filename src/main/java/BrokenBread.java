@@ -121,7 +121,6 @@ public final class BrokenBread {
     private final int[] orderWords = new int[ORDER_WORDS];
     private final long[] tripped = new long[MOST_TRIPPED];
     private final int[] refusedBy = new int[REFUSALS];
-    private boolean seasonKept = false;
     private int rowCrumbs = 0;
     private int clauseStopped = NONE;
     private int latestStatus = 0;
@@ -492,7 +491,6 @@ public final class BrokenBread {
             return told(CANT_BE);
         }
         season.become(live);
-        seasonKept = true;
         judge.look(season, season.lawOf(season.inForce));
         draws.begin(seed);
         for (int k = 0; k < n && season.term[DAY] < LAST_DAY; k++) {
@@ -502,7 +500,7 @@ public final class BrokenBread {
     }
 
     public int drawn(int one, int other) {
-        if (!seasonKept || !season.has(one)) {
+        if (!season.has(one)) {
             return NONE;
         }
         if (other == NONE) {

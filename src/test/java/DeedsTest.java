@@ -46,6 +46,9 @@ public final class DeedsTest {
         due("3: HARMS it did", x.of(0, 3), 2);
         due("3: HARMS done to it", x.of(0, 4), 1);
         due("3: HARMS it did not do", x.of(2, 3), 0);
+        x.harm(1, 2, 1);
+        due("3: HARMS of two to it", x.of(2, 4), 2);
+        due("3: HARMS it did, one of them by 1", x.of(1, 3), 2);
         due("3: no such FOLK", x.of(3, 0), -1);
         due("3: below", x.of(-1, 0), -1);
         due("3: no such what", x.of(0, 5), -1);
@@ -239,6 +242,31 @@ public final class DeedsTest {
         due("19: it stays done", x.asks(0, 1, 0), 1);
     }
 
+    private static void undoOfOthers() {
+        BrokenBread x = Check.upland(3, 8, 0);
+        x.terms(0, 30);
+        x.harm(2, 1, 4);
+        x.pass();
+        x.pass();
+        x.pardon(2, 1);
+        x.undo();
+        due("19: its WEIGHT", x.asks(2, 1, 0), 4);
+        due("19: its DAY", x.asks(2, 1, 1), 30);
+        due("19: no other HARM", x.count(1), 1);
+        x.undo();
+        due("19: DAY of a pass", x.count(13), 31);
+        x.undo();
+        due("19: DAY of another one", x.count(13), 30);
+        for (int k = 0; k < 16; k++) {
+            x.harm(2, 0, 1 + k % 9);
+        }
+        due("19: sixteen more, undone by none that fails", Check.orders(x, "pass times 18;feast 0"), -3);
+        for (int k = 14; k >= 0; k--) {
+            due("19: the deeds ahead of it", x.undo(), 0);
+            due("19: what they were", x.asks(2, 0, 0), 1 + k % 9);
+        }
+    }
+
     private static void undoEnds() {
         BrokenBread x = Check.upland(3, 8, 0);
         x.harm(0, 1, 4);
@@ -281,6 +309,7 @@ public final class DeedsTest {
         pardon();
         pass();
         undo();
+        undoOfOthers();
         undoEnds();
         CHECK.close();
     }

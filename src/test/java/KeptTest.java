@@ -140,6 +140,9 @@ public final class KeptTest {
         due("40: its DAY", x.asks(0, 1, 1), 5);
         due("40: SAT", x.count(3), 1);
         due("40: LAWS", x.count(4), 1);
+        x.forget();
+        x.sat(1 + 2);
+        x.back(1);
         due("40: the LAW in FORCE", x.count(12), 0);
         due("40: it tells", x.asks(1, 0, 2), 2);
         due("40: DAY", x.count(13), 5);
@@ -166,6 +169,17 @@ public final class KeptTest {
         x.harm(0, 1, 8);
         x.back(1);
         due("39: kept anew", x.asks(0, 1, 0), 9);
+    }
+
+    private static void seenInImages() {
+        BrokenBread x = Check.upland(1, 1, 1);
+        x.sat(3);
+        x.image(0);
+        x.forget();
+        x.sat(6);
+        due("30: another two", x.doubted(0), 12);
+        x.back(0);
+        due("40: who SAT together", x.doubted(0), 1);
     }
 
     private static void counts() {
@@ -259,6 +273,7 @@ public final class KeptTest {
         seasonsByDraws();
         drawn();
         images();
+        seenInImages();
         counts();
         status();
         CHECK.close();

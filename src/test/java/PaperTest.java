@@ -64,6 +64,12 @@ public final class PaperTest {
         due("22: what below", x.newHarms(-1), -1);
         x.force(-1);
         due("22: no such FOLK", x.newHarms(5), -1);
+        row("22: nobody BARS then", new int[] {1, 0, 1, 0, 1}, x::newHarms);
+        due("21: it can't be", x.tables(0), -1);
+        row("22: behind tables()", new int[] {1, 0, 1, 0, 1}, x::newHarms);
+        Check.law(x, "bars if doer = 0 and other = 2");
+        x.force(2);
+        row("22: the first one BARS", new int[] {2, 0, 0, 1, 1}, x::newHarms);
     }
 
     private static void leftOut() {
@@ -74,6 +80,11 @@ public final class PaperTest {
         row("23: the lowest as bits", new int[] {1, 1}, joined(3, 1, 12)::leftOut);
         row("23: a star", new int[] {2, 6}, joined(4, 1, 2, 3)::leftOut);
         row("23: one who has none", new int[] {1, 8}, joined(4, 1, 12, 20)::leftOut);
+        BrokenBread seven = joined(7, 1, 23, 45, 46, 56);
+        row("23: nobody of seven", new int[] {0, 0}, seven::leftOut);
+        seven.pardon(0, 1);
+        row("23: as all is now", new int[] {2, 3}, seven::leftOut);
+        row("23: seven", new int[] {7, 127}, joined(7)::leftOut);
         due("23: what below", joined(2).leftOut(-1), -1);
     }
 
@@ -94,6 +105,10 @@ public final class PaperTest {
         due("24: far", x.seat(7, Integer.MAX_VALUE), -1);
         Check.law(x, "counts other;bars");
         x.force(0);
+        BrokenBread y = Check.upland(1, 1, 1);
+        y.harm(0, 2, 3);
+        y.harm(2, 1, 2);
+        row("24: by the first one", new int[] {2, 1, 0, -1}, i -> y.seat(7, i));
         row("24: what COUNTS, not the WEIGHT", new int[] {2, 1, 0, -1}, i -> x.seat(7, i));
     }
 
@@ -125,6 +140,8 @@ public final class PaperTest {
         BrokenBread line = joined(7, 1, 12, 23, 34, 45, 56);
         due("26: one", line.circles(), 1);
         row("27: all of a line", new int[] {1, 12, 23, 34, 45, 56, -1}, line::bridges);
+        row("27: by way of the higher one", new int[] {2, 12, -1}, joined(3, 2, 12)::bridges);
+        row("27: by way of the highest one", new int[] {3, 13, 23, -1}, joined(4, 3, 13, 23)::bridges);
         BrokenBread ring = joined(4, 1, 12, 23, 30);
         due("27: none in a ring", ring.bridges(-1), 0);
         due("27: no first", ring.bridges(0), -1);
@@ -161,6 +178,11 @@ public final class PaperTest {
         due("30: none then", x.doubted(-1), 0);
         due("29: none", x.forget(), 0);
         due("28: again", x.sat(3), 1);
+        BrokenBread seven = joined(7);
+        due("28: all seven", seven.sat(127), 1);
+        due("30: all twos of seven", seven.doubted(-1), 21);
+        due("30: the first", seven.doubted(0), 1);
+        due("30: the last", seven.doubted(20), 56);
     }
 
     private static void fittingAndAsk() {
@@ -236,6 +258,11 @@ public final class PaperTest {
         due("34: above", x.fedBy(11), -1);
         due("34: below", x.fedBy(-1), -1);
         due("34: no FOLK", joined(0).fedBy(10), 0);
+        BrokenBread seven = joined(7, 1, 23, 45, 46, 56);
+        due("34: seven", seven.fedBy(6), 3);
+        seven.pardon(0, 1);
+        due("34: as all is now", seven.fedBy(6), -1);
+        due("34: all at one", joined(3, 1, 2, 12).fedBy(10), 1);
     }
 
     private static void few() {
@@ -278,6 +305,33 @@ public final class PaperTest {
         due("36: no FOLK", joined(0).compare(-1), 0);
     }
 
+    /** Each asks the LAW in FORCE, and what stands now, whatever was asked ahead of it. */
+    private static void asksAnew() {
+        BrokenBread x = joined(4, 1, 12, 20);
+        Check.law(x, "bars;hungers 9;counts 9;feeds 0");
+        String[] all = {"compare", "seasons"};
+        for (String ahead : all) {
+            java.util.function.IntSupplier[] asked = {() -> x.of(0, 1), () -> x.of(0, 2), () -> x.asks(0, 1, 4),
+                () -> x.asks(0, 1, 3), () -> x.asks(0, 1, 2), () -> x.largest(0), () -> x.tables(0), () -> x.newHarms(0),
+                () -> x.leftOut(1), () -> x.seat(6, 0), () -> x.chain(0, 2, -1), x::circles, () -> x.bridges(-1),
+                () -> x.doubted(-1), () -> x.fitting(1), () -> x.ask(1, 1), () -> x.lasts(0), () -> x.fedBy(10),
+                () -> x.feast(7), x::pass};
+            int[] want = {6, 1, 1, 0, 2, 3, -1, 1, 8, 2, 1, 2, 0, 0, 6, 1, 5, -1, 3, 0};
+            for (int k = 0; k < asked.length; k++) {
+                if (ahead.equals("compare")) {
+                    due("36: no TABLE", x.compare(0), 0);
+                } else {
+                    x.force(0);
+                    x.seasons(5, 40);
+                    x.force(-1);
+                }
+                due("behind " + ahead + ", number " + k, asked[k].getAsInt(), want[k]);
+            }
+            due("a pass, undone", x.undo(), 3);
+            due("a feast, undone", x.undo(), 1);
+        }
+    }
+
     public static void main(String[] args) {
         largest();
         tables();
@@ -292,6 +346,7 @@ public final class PaperTest {
         fedBy();
         few();
         compare();
+        asksAnew();
         CHECK.close();
     }
 }

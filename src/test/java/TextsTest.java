@@ -55,6 +55,8 @@ public final class TextsTest {
         due("8: each counts", x.row(), 2);
         due("9: none", x.crumbs(), 0);
         due("8: the latest stands", x.asks(1, 2, 0), 4);
+        Check.putBytes(x, 2, 1, 1);
+        due("8: WEIGHT 1", x.row(), 1);
         Check.putBytes(x, 1);
         due("8: none", x.row(), 0);
         due("9: one", x.crumbs(), 1);
@@ -116,7 +118,9 @@ public final class TextsTest {
             {"bars if 1 = 1 = 1", 14}, {"bars if 1 == 1", 11}, {"bars if not", 11}, {"bars if (1 = 1", 14},
             {"bars if (1 = 1]", 14}, {"bars if [1 = 1]", 11}, {"bars if (1) = 1", 10}, {"bars if 1 = 1)", 13},
             {"bars if 1 = 1 or", 16}, {"bars if 1 = 1 and or", 18}, {"bars if 1 = 1 not 2 = 2", 14}, {"bars\tif 1 = 1", 4},
-            {"bars if 1 = 1 if 1 = 1", 14}, {"bars ifday = 1", 5}, {"counts 1,2", 8}, {"counts 1.5", 8}, {"bars, bars", 4}};
+            {"bars if 1 = 1 if 1 = 1", 14}, {"bars ifday = 1", 5}, {"counts 1,2", 8}, {"counts 1 *;bars", 10},
+            {"counts 1 +;bars", 10}, {"gars", 0}, {"barz", 0}, {"bar", 0}, {"bars if nat 1 = 1", 8}, {"bars if 1 = ;bars", 12},
+            {"bars if 1 = 1 and ;bars", 18}, {"counts [1 + ];bars", 12}, {"bars if (1 = 1 or );bars", 18}, {"counts 1.5", 8}, {"bars, bars", 4}};
         for (Object[] b : bad) {
             lawFault((String) b[0], (Integer) b[1]);
         }
@@ -319,6 +323,31 @@ public final class TextsTest {
         due("11: " + ahead + sum, x.asks(2, 1, 0), want);
     }
 
+    /** What one TEXT leaves behind must not reach the next. */
+    private static void manyTexts() {
+        BrokenBread x = Check.upland(4, 6, 0);
+        x.image(0);
+        String longest = "counts " + Check.repeated("1+", 49) + "1;" + Check.repeated("bars;", 10) + "bars";
+        for (int k = 0; k < 20; k++) {
+            due("10: again", Check.law(x, longest), 0);
+            due("10: not whole", Check.law(x, "counts 1 if [[1 + 2"), -6);
+            due("11: again", Check.orders(x, "harm 0 to 1 by 1 + " + k % 9 + ";pass if at 0 = 2"), 2);
+            due("40: back", x.back(0), 0);
+        }
+        Check.law(x, "counts 3");
+        x.force(0);
+        due("10: the latest", x.asks(0, 1, 2), 3);
+    }
+
+    private static void ages() {
+        BrokenBread x = Check.upland(4, 6);
+        Check.law(x, "counts 8 if age = 2 and weight = 1");
+        x.force(0);
+        x.harm(1, 0, 1);
+        x.terms(0, 2);
+        due("age of a HARM of WEIGHT 1", x.asks(1, 0, 2), 8);
+    }
+
     private static void orderWords() {
         orderWord("", "day", 5);
         orderWord("pass;", "day", 6);
@@ -357,6 +386,8 @@ public final class TextsTest {
         orders();
         ordersThatCantBe();
         orderWords();
+        manyTexts();
+        ages();
         CHECK.close();
     }
 }
