@@ -109,7 +109,6 @@ public final class BrokenBread {
     private final Upland ahead = new Upland();
     private final Upland season = new Upland();
     private final Upland[] images = new Upland[IMAGES];
-    private final boolean[] imageKept = new boolean[IMAGES];
     private final Past past = new Past();
     private final Past pastAhead = new Past();
     private final Tape tape = new Tape();
@@ -126,9 +125,6 @@ public final class BrokenBread {
     private int latestStatus = 0;
 
     public BrokenBread() {
-        for (int k = 0; k < IMAGES; k++) {
-            images[k] = new Upland();
-        }
     }
 
     public int folk(int fed) {
@@ -264,7 +260,7 @@ public final class BrokenBread {
         askLive();
         orderWords[ORDER_DONE] = 0;
         orderWords[ORDER_LATEST] = NONE;
-        fillOrderWords(reader.draft.usesAt);
+        fillOrderWords(reader.draft.atWhom);
         for (int clause = 0; clause < reader.draft.clauses; clause++) {
             if (!ranClause(reader.draft, clause)) {
                 live.become(ahead);
@@ -513,8 +509,12 @@ public final class BrokenBread {
         if (k < 0 || k >= IMAGES) {
             return told(BAD_NUMBER);
         }
-        images[k].become(live);
-        imageKept[k] = true;
+        Upland kept = images[k];
+        if (kept == null) {
+            kept = new Upland();
+            images[k] = kept;
+        }
+        kept.become(live);
         return told(0);
     }
 
@@ -522,10 +522,11 @@ public final class BrokenBread {
         if (k < 0 || k >= IMAGES) {
             return told(BAD_NUMBER);
         }
-        if (!imageKept[k]) {
+        Upland kept = images[k];
+        if (kept == null) {
             return told(NOT_THERE);
         }
-        live.become(images[k]);
+        live.become(kept);
         past.clear();
         return told(0);
     }
@@ -709,21 +710,28 @@ public final class BrokenBread {
                     return false;
                 }
                 orderWords[ORDER_DONE]++;
-                fillOrderWords(script.usesAt);
+                fillOrderWords(script.atWhom);
             }
         }
         return true;
     }
 
-    /** Anew behind each one that was run; who MAY sit with whom is dear, and asked only if a TEXT says "at". */
-    private void fillOrderWords(boolean withAt) {
+    /** Anew behind each one that was run; who MAY sit together is dear, so only of those a TEXT says "at" of. */
+    private void fillOrderWords(int atWhom) {
         orderWords[ORDER_DAY] = live.term[DAY];
         orderWords[ORDER_HARMS] = live.harmCount();
         orderWords[ORDER_STARVING] = live.starving();
         for (int p = 0; p < MOST_FOLK; p++) {
-            boolean there = live.has(p);
-            orderWords[ORDER_FED + p] = there ? live.fedOf(p) : NONE;
-            orderWords[ORDER_AT + p] = there && withAt ? judge.companions(p) : NONE;
+            orderWords[ORDER_FED + p] = live.fedOf(p);
+            orderWords[ORDER_AT + p] = live.has(p) ? 0 : NONE;
+        }
+        for (int p = 0; p < MOST_FOLK; p++) {
+            for (int q = p + 1; q < live.folks; q++) {
+                if ((atWhom >> p & 1 | atWhom >> q & 1) == 1 && judge.maySit(p, q)) {
+                    orderWords[ORDER_AT + p] |= 1 << q;
+                    orderWords[ORDER_AT + q] |= 1 << p;
+                }
+            }
         }
     }
 
@@ -981,6 +989,7 @@ public final class BrokenBread {
     /**
      * A TEXT that was read. Of each CLAUSE its heads tell kind, TIMES, where in the code its TEST begins (NONE:
      * it has no "if"), and where each SUM does (NONE: it has fewer). The code is for a stack, an act a cell.
+     * Of whom ORDERS say "at" is kept as bits.
      */
     private static final class Script {
         private static final int KIND = 0;
@@ -999,7 +1008,7 @@ public final class BrokenBread {
         private final int[] code;
         private int clauses = 0;
         private int length = 0;
-        private boolean usesAt = false;
+        private int atWhom = 0;
 
         Script(int mostClauses, int mostCode) {
             heads = new int[Math.max(0, mostClauses) * WIDTH];
@@ -1009,14 +1018,13 @@ public final class BrokenBread {
         void clear() {
             clauses = 0;
             length = 0;
-            usesAt = false;
+            atWhom = 0;
         }
 
         Script trimmed() {
             Script same = new Script(clauses, length);
             same.clauses = clauses;
             same.length = length;
-            same.usesAt = usesAt;
             System.arraycopy(heads, 0, same.heads, 0, same.heads.length);
             System.arraycopy(code, 0, same.code, 0, same.code.length);
             return same;
@@ -1402,7 +1410,7 @@ public final class BrokenBread {
                     return failed();
                 }
                 draft.put(Script.WORD, (word == AT ? ORDER_AT : ORDER_FED) + nowValue);
-                draft.usesAt = draft.usesAt || word == AT;
+                draft.atWhom |= word == AT ? 1 << nowValue : 0;
             } else if (word == DAY_WORD) {
                 draft.put(Script.WORD, ORDER_DAY);
             } else if (word >= DONE && word <= STARVING) {
@@ -1450,11 +1458,14 @@ public final class BrokenBread {
                 return false;
             }
             knowTwo(one, other);
-            boolean barred = tellsLaw(BARS, NONE) != NONE;
             int counted = tellsLaw(COUNTS, lawWords[LAW_WEIGHT]);
-            knowTwo(other, one);
-            barred = barred || tellsLaw(BARS, NONE) != NONE;
-            return !barred && counted + tellsLaw(COUNTS, lawWords[LAW_WEIGHT]) > 0;
+            boolean barred = tellsLaw(BARS, NONE) != NONE;
+            if (!barred) {
+                knowTwo(other, one);
+                counted += tellsLaw(COUNTS, lawWords[LAW_WEIGHT]);
+                barred = tellsLaw(BARS, NONE) != NONE;
+            }
+            return !barred && counted > 0;
         }
 
         int companions(int p) {

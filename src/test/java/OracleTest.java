@@ -65,7 +65,12 @@ public final class OracleTest {
     }
 
     private int small(int top) {
-        return draws.nextInt(40) == 0 ? draws.nextInt() : draws.nextInt(top + 2) - (draws.nextInt(4) == 0 ? 1 : 0);
+        switch (draws.nextInt(80)) {
+            case 0: return draws.nextInt();
+            case 1: return Integer.MIN_VALUE;
+            case 2: return Integer.MAX_VALUE;
+            default: return draws.nextInt(top + 2) - (draws.nextInt(4) == 0 ? 1 : 0);
+        }
     }
 
     private void put(String text) throws ReflectiveOperationException {
