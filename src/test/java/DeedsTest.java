@@ -78,6 +78,7 @@ public final class DeedsTest {
         due("4: one alone", x.asks(1, 1, 4), -1);
         due("4: none such", x.asks(0, 3, 0), -1);
         due("4: none such, the doer", x.asks(-1, 0, 0), -1);
+        due("4: none such, the doer above", x.asks(3, 0, 0), -1);
         due("4: no such what", x.asks(0, 1, 5), -1);
         due("4: what below", x.asks(0, 1, -1), -1);
         Check.law(x, "counts 10 if other = 2;counts 0 - 3 if doer = 2;bars if fed = 9 and other = 2");
@@ -145,6 +146,7 @@ public final class DeedsTest {
         due("15: oneself who is not there", x.harm(8, 8, 3), -1);
         due("15: no such FOLK", x.harm(0, 3, 3), -2);
         due("15: no such doer", x.harm(-1, 0, 3), -2);
+        due("15: no such doer above", x.harm(3, 0, 3), -2);
         due("15: -1 comes ahead of -2", x.harm(0, 3, 0), -1);
         due("15: HARMS", x.count(1), 1);
     }

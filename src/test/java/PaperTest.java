@@ -196,6 +196,10 @@ public final class PaperTest {
         due("31: above", x.fitting(128), -1);
         due("31: below", x.fitting(-1), -1);
         due("31: no FOLK", joined(0).fitting(0), 0);
+        BrokenBread y = joined(2, 1);
+        due("31: the first one", y.fitting(2), 1);
+        y.pardon(0, 1);
+        due("31: as all is now", y.fitting(2), 0);
         due("32: half of all", x.ask(0, 0), 2);
         due("32: how many", x.ask(0, 1), 3);
         due("32: of three, the lowest of alike ones", x.ask(4, 0), 0);
