@@ -1,4 +1,5 @@
 import java.nio.charset.StandardCharsets;
+import java.util.function.IntUnaryOperator;
 
 /** Collects answers that are not as due, and puts texts on a tape. */
 final class Check {
@@ -76,6 +77,25 @@ final class Check {
             x.folk(f);
         }
         return x;
+    }
+
+    /** FOLK so many, FED 5 each, with HARMS of the first to the second of each two. */
+    static BrokenBread joined(int folks, int... twos) {
+        BrokenBread x = new BrokenBread();
+        for (int p = 0; p < folks; p++) {
+            x.folk(5);
+        }
+        for (int two : twos) {
+            x.harm(two / 10, two % 10, 1 + two % 3);
+        }
+        return x;
+    }
+
+    /** The answers for 0, 1, 2 and so on. */
+    void row(String what, int[] want, IntUnaryOperator got) {
+        for (int i = 0; i < want.length; i++) {
+            due(what + ", number " + i, got.applyAsInt(i), want[i]);
+        }
     }
 
     static String repeated(String part, int times) {

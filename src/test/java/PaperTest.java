@@ -6,22 +6,12 @@ public final class PaperTest {
         CHECK.due(what, got, want);
     }
 
-    /** FOLK so many, FED 5 each, with HARMS of the first to the second of each two. */
     private static BrokenBread joined(int folks, int... twos) {
-        BrokenBread x = new BrokenBread();
-        for (int p = 0; p < folks; p++) {
-            x.folk(5);
-        }
-        for (int two : twos) {
-            x.harm(two / 10, two % 10, 1 + two % 3);
-        }
-        return x;
+        return Check.joined(folks, twos);
     }
 
     private static void row(String what, int[] want, java.util.function.IntUnaryOperator got) {
-        for (int i = 0; i < want.length; i++) {
-            due(what + ", number " + i, got.applyAsInt(i), want[i]);
-        }
+        CHECK.row(what, want, got);
     }
 
     private static void largest() {
