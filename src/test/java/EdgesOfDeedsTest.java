@@ -150,6 +150,9 @@ public final class EdgesOfDeedsTest {
         due("I: a REFUSED one is no time", y.asks(0, 1, 1), 0);
         y.harm(0, 1, 4);
         due("I: the latest time, by harm()", y.asks(0, 1, 1), 7);
+        y.harm(0, 1, 1);
+        due("4: the DAY of a HARM of WEIGHT 1", y.asks(0, 1, 1), 7);
+        y.harm(0, 1, 4);
         y.pardon(0, 1);
         due("4: DAY NONE: none", y.asks(0, 1, 1), -1);
         due("15: any, if there was none", y.harm(0, 1, 4), 0);
@@ -281,6 +284,7 @@ public final class EdgesOfDeedsTest {
         due("19: 0 a harm", x.undo(), 0);
         due("19: none", x.asks(0, 1, 1), -1);
         due("19: -3", x.undo(), -3);
+        undoneOfSeven();
         BrokenBread y = Check.upland(9, 9);
         y.harm(0, 1, 1);
         y.harm(1, 0, 1);
@@ -293,6 +297,30 @@ public final class EdgesOfDeedsTest {
             due("19: DAY", y.count(13), k);
         }
         due("19: no more", y.undo(), -3);
+    }
+
+    private static void undoneOfSeven() {
+        BrokenBread x = Check.upland(9, 9, 9, 9, 9, 9, 9);
+        x.harm(6, 5, 3);
+        x.harm(5, 6, 4);
+        x.pass();
+        x.pass();
+        x.harm(6, 5, 8);
+        x.pass();
+        x.pardon(6, 5);
+        x.feast(96);
+        int[][] want = {{1, 0, 4, -1, 3, 6}, {2, 8, 4, 2, 3, 6}, {3, 8, 4, 2, 2, 7}, {0, 3, 4, 0, 2, 7}, {3, 3, 4, 0, 1, 8},
+            {3, 3, 4, 0, 0, 9}, {0, 3, 0, 0, 0, 9}, {0, 0, 0, -1, 0, 9}};
+        for (int[] w : want) {
+            due("19: which", x.undo(), w[0]);
+            due("19: the WEIGHT", x.asks(6, 5, 0), w[1]);
+            due("19: the other WEIGHT", x.asks(5, 6, 0), w[2]);
+            due("19: the DAY of the HARM", x.asks(6, 5, 1), w[3]);
+            due("19: DAY", x.count(13), w[4]);
+            due("19: FED of the seventh", x.of(6, 0), w[5]);
+            due("19: FED of the first", x.of(0, 0), w[5]);
+        }
+        due("19: -3", x.undo(), -3);
     }
 
     private static void endsOfUndo() {
@@ -521,6 +549,27 @@ public final class EdgesOfDeedsTest {
         due("41: IMAGES do not keep what was REFUSED", x.count(10), 4);
     }
 
+    private static void imagesOfHarmsAndSat() {
+        BrokenBread x = Check.upland(5, 5, 5, 5, 5, 5, 5);
+        x.terms(0, 3);
+        x.harm(6, 5, 7);
+        x.harm(0, 1, 7);
+        x.sat(96);
+        x.sat(7);
+        x.image(1);
+        x.terms(0, 8);
+        x.harm(6, 5, 8);
+        x.pardon(0, 1);
+        x.forget();
+        x.sat(24);
+        x.back(1);
+        due("40: WEIGHTS", x.asks(6, 5, 0) * 10 + x.asks(0, 1, 0), 77);
+        due("40: their DAYS", x.asks(6, 5, 1) * 10 + x.asks(0, 1, 1), 33);
+        due("40: the sets that SAT", x.doubted(-1), 2);
+        due("40: the first two of them that MAY not", x.doubted(0), 2);
+        due("40: the second", x.doubted(1), 12);
+    }
+
     private static void imagesLeave() {
         BrokenBread x = Check.upland(5, 5);
         x.image(0);
@@ -646,6 +695,7 @@ public final class EdgesOfDeedsTest {
         harmsOfDraws();
         images();
         imagesOfMostAndNothing();
+        imagesOfHarmsAndSat();
         imagesLeave();
         countsOfAll();
         statusOfAll();

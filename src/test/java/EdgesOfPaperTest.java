@@ -255,6 +255,8 @@ public final class EdgesOfPaperTest {
         due("32: what below", x.ask(0, -1), -1);
         row("32: no FOLK", w -> joined(0).ask(0, w), -1, -1);
         row("32: one alone: itself: it MAY not", w -> joined(1).ask(0, w), 0, 0);
+        row("32: seven alone: as far as can be", w -> joined(7).ask(0, w), 0, 0);
+        row("32: seven, each with all", w -> friends(7).ask(0, w), 0, 6);
         row("32: one of the set is not there", w -> joined(1).ask(2, w), -1, -1);
         row("32: two: half of them", w -> joined(2, 1).ask(0, w), 0, 1);
         row("32: FOLK who are not FITTING, too", w -> joined(5, 1, 2, 3, 31, 41).ask(1, w), 1, 1);
@@ -386,6 +388,38 @@ public final class EdgesOfPaperTest {
         due("36: no FOLK", joined(0).compare(-1), 0);
     }
 
+    /** On paper, as all is now: what was asked ahead must not be left. */
+    private static void askedAgain() {
+        BrokenBread x = friends(7);
+        forced(x, "bars if mood = 1");
+        x.sat(127);
+        int[][] told = new int[3][];
+        for (int k = 0; k < 3; k++) {
+            x.terms(2, k % 2);
+            told[k] = new int[] {x.largest(0), x.tables(0), x.newHarms(0), x.leftOut(0), x.chain(0, 6, -1), x.circles(),
+                x.bridges(-1), x.doubted(-1), x.fitting(1), x.ask(1, 1), x.fedBy(10), x.of(0, 1), x.of(6, 1)};
+        }
+        int[] friends = {7, 1, 0, 0, 1, 1, 0, 0, 126, 5, 1, 126, 63};
+        int[] none = {-1, -1, -1, 7, -1, 7, 0, 21, 0, -1, -1, 0, 0};
+        for (int i = 0; i < friends.length; i++) {
+            due("III: as all is now, number " + i, told[0][i], friends[i]);
+            due("III: as all is now, all BARRED, number " + i, told[1][i], none[i]);
+            due("III: as all is now, again, number " + i, told[2][i], friends[i]);
+        }
+        BrokenBread line = joined(7, 1, 12, 23, 34, 45, 56);
+        for (int k = 0; k < 2; k++) {
+            due("27: all of a line, asked again", line.bridges(-1), 6);
+            due("27: its first", line.bridges(0), 1);
+            due("26: one", line.circles(), 1);
+        }
+        line.harm(6, 0, 1);
+        due("27: none of a ring", line.bridges(-1), 0);
+        due("25: the shorter way", line.chain(0, 6, -1), 1);
+        due("23: one of seven", line.leftOut(1), 1);
+        line.harm(0, 2, 1);
+        due("23: nobody, with one of three", line.leftOut(1), 0);
+    }
+
     public static void main(String[] args) {
         largest();
         tables();
@@ -402,6 +436,7 @@ public final class EdgesOfPaperTest {
         fedBy();
         few();
         compare();
+        askedAgain();
         CHECK.close();
     }
 }

@@ -55,6 +55,8 @@ public final class EdgesOfTextsTest {
         due("7: its first n bytes alone", x.end(399), 399);
         due("7: it has not so many any more", x.end(400), -1);
         due("6: more than 400 by 19", x.feed(0, 0, 0, 0, 0), -1);
+        due("7: as many as leave room for 19", x.end(381), 381);
+        due("6: more than 400 by 1", x.feed(0, 0, 0, 0, 0), -1);
         due("7: as many as leave room", x.end(380), 380);
         due("6: 400 are no more than 400", x.feed(0, 0, 0, 0, 0), 400);
         due("7: none", x.end(0), 0);
@@ -366,6 +368,15 @@ public final class EdgesOfTextsTest {
         so(broken, "0 - 1000 * 1000 * [1000 + 1] < 0", false);
         so(broken, "1 / 0 = 1 or 1 = 1", false);
         so(broken, "not (1 / 0 = 1 and 1 = 2)", false);
+        String turned = "II: \"not\" PLAIN";
+        so(turned, "not 1 = 1 and 1 = 1", false);
+        so(turned, "not 1 = 2 and 1 = 1", true);
+        so(turned, "not 1 = 2 or 1 = 2", true);
+        so(turned, "not (not 1 = 1)", true);
+        so(turned, "not (not (not 1 = 1))", false);
+        so(turned, "not (not 1 = 2 and not 1 = 1)", true);
+        so(turned, times("not ", 80) + "1 = 1", true);
+        so(turned, times("not ", 81) + "1 = 1", false);
         String asked = "II: \"or\", \"and\" ask what stands behind only if it can still matter";
         so(asked, "1 = 1 or 1 / 0 = 1", true);
         so(asked, "1 = 2 or 1 / 0 = 1", false);
@@ -465,8 +476,11 @@ public final class EdgesOfTextsTest {
         due("II: fed: the doer's", x.asks(0, 1, 2), 4);
         due("II: fed: the doer's, the other way", x.asks(1, 0, 2), 6);
         x.force(4);
+        x.terms(0, 30);
+        x.asks(0, 1, 2);
         due("II: hungers: other, weight, age, size -1", x.of(0, 2), 5);
         x.force(5);
+        x.asks(0, 1, 2);
         x.feast(3);
         due("II: feeds: other, weight, age -1, size: how many sit there", x.of(0, 0), 8);
     }
@@ -532,7 +546,9 @@ public final class EdgesOfTextsTest {
         word("II: at: nobody", "", "at 2 + 1", 1);
         word("II: at: -1 without such FOLK", "", "at 3 + 2", 1);
         word("II: at: -1 without such FOLK, the highest", "", "at 6 + 2", 1);
-        word("II: harms", "pardon 0 to 1;", "harms + 1", 1);
+        word("II: harms: none", "pardon 0 to 1;", "harms + 1", 1);
+        word("II: harms: one", "", "harms", 1);
+        word("II: harms: four", "harm 1 to 0 by 1;harm 1 to 2 by 1;harm 0 to 2 by 1;harm 0 to 2 by 2;", "harms", 4);
         word("II: starving, of all", "pass times 6;", "starving", 3);
         word("II: starving", "", "starving", 1);
         word("II: day", "pass;", "day", 6);
@@ -548,6 +564,60 @@ public final class EdgesOfTextsTest {
         due("II: the last WEIGHT", seven.asks(1, 2, 0), 9);
         due("II: the tenth can't be", Check.orders(seven, "harm 2 to 1 by done + 1 times 10"), -3);
         due("II: all is as it was ahead of it", seven.asks(2, 1, 0), 0);
+    }
+
+    /** "fed", "at" of each P of seven, of whom each MAY sit with others. */
+    private static void wordsOfSeven() {
+        BrokenBread x = Check.upland(0, 1, 2, 3, 4, 5, 9);
+        int[][] twos = {{6, 0}, {0, 3}, {5, 4}, {1, 2}, {2, 6}, {1, 5}};
+        for (int[] two : twos) {
+            x.harm(two[0], two[1], 1);
+        }
+        int[] fed = {0, 1, 2, 3, 4, 5, 9};
+        int[] may = {72, 36, 66, 1, 32, 18, 5};
+        for (int p = 0; p < 7; p++) {
+            String test = "pass if fed " + p + " = " + fed[p] + " and at " + p + " = " + may[p];
+            due("II: " + test, Check.orders(x, test), 1);
+            x.undo();
+            due("3: with whom " + p + " MAY sit", x.of(p, 1), may[p]);
+        }
+        due("II: two of them in one TEXT", Check.orders(x, "pass if at 0 * 10 + at 6 = 725"), 1);
+        due("II: anew behind each one that was run",
+                Check.orders(x, "pardon 6 to 0;pass if at 0 = 8 and at 6 = 4;harm 0 to 6 by 1;pass if at 0 = 72 and at 6 = 5"), 4);
+        due("II: by the LAW in FORCE", x.force(Check.law(x, "bars if doer = 6")), -1);
+        due("II: nobody sits with the seventh", Check.orders(x, "pass if at 6 = 0 and at 0 = 8"), 1);
+    }
+
+    /** What one TEXT leaves behind, or what was asked ahead of it, must not reach the next. */
+    private static void textsOneByOne() {
+        BrokenBread x = Check.upland(5, 5);
+        x.harm(0, 1, 1);
+        String most = "counts " + times("1+", 49) + "1;" + times("bars;", 10) + "bars";
+        due("10: the most PARTS and CLAUSES", Check.law(x, most), 0);
+        due("10: not whole", Check.law(x, "counts 1 if [[[[[[[[1 + "), -6);
+        due("10: the most again", Check.law(x, most), 1);
+        due("11: the most PARTS", Check.orders(x, "pass if 0 < " + times("at 0+", 48) + "1"), 1);
+        due("11: the most PARTS again", Check.orders(x, "pass if 0 < " + times("at 0+", 48) + "1"), 1);
+        due("10: a short one", Check.law(x, "bars if doer = 0"), 2);
+        due("36: another LAW is asked", x.compare(0), 0);
+        due("11: by that in FORCE, none", Check.orders(x, "feast 3;pass if at 0 = 2"), 2);
+        x.force(2);
+        due("36: no LAW is asked", x.compare(-1), 2);
+        due("11: by that in FORCE", Check.orders(x, "feast 3"), -3);
+        x.force(-1);
+        x.seasons(7, 9);
+        due("11: not of the SEASONS", Check.orders(x, "pass if day = 3"), 1);
+    }
+
+    /** A HARM's DAY, too, is as it was ahead of ORDERS that can't be. */
+    private static void dayOfHarmAhead() {
+        BrokenBread x = Check.upland(5, 5);
+        x.terms(0, 3);
+        x.harm(0, 1, 7);
+        x.terms(0, 8);
+        due("11: one can't be", Check.orders(x, "harm 0 to 1 by 8;pardon 0 to 1;harm 0 to 1 by 7;feast 0"), -3);
+        due("11: its WEIGHT is as it was", x.asks(0, 1, 0), 7);
+        due("11: its DAY is as it was", x.asks(0, 1, 1), 3);
     }
 
     private static void cantBe() {
@@ -679,6 +749,9 @@ public final class EdgesOfTextsTest {
         lawWords();
         ordersOfLimits();
         orderWords();
+        wordsOfSeven();
+        textsOneByOne();
+        dayOfHarmAhead();
         cantBe();
         rows();
         laws();
