@@ -84,6 +84,29 @@ public final class EdgesOfDeedsTest {
         due("3: with all six", x.of(6, 1), 63);
     }
 
+    /** One beyond the FOLK there are, for each what, also by a LAW by which all MAY sit with all. */
+    private static void folkNotThere() {
+        BrokenBread x = Check.upland(3, 4, 5);
+        x.harm(0, 1, 2);
+        for (int law = -1; law < 1; law++) {
+            for (int what = 0; what <= 4; what++) {
+                for (int p : new int[] {3, 6, 7, -1, -2}) {
+                    due("3: NONE for " + p + ", what " + what + ", LAW " + law, x.of(p, what), -1);
+                    due("4: NONE, one is not there: " + p + ", what " + what, x.asks(p, 0, what), -1);
+                    due("4: NONE, the other one is not there: " + p + ", what " + what, x.asks(0, p, what), -1);
+                }
+                for (int p = 0; p < 3; p++) {
+                    due("4: NONE, one FOLK alone: " + p + ", what " + what, x.asks(p, p, what), -1);
+                }
+            }
+            forced(x, "counts 1");
+        }
+        for (int p = 0; p < 3; p++) {
+            due("3: with whom it MAY sit, never itself: " + p, x.of(p, 1), 7 & ~(1 << p));
+        }
+        due("II: at: never itself", Check.orders(x, "pass if at 0 = 6 and at 1 = 5 and at 2 = 3"), 1);
+    }
+
     /** A new one of the FOLK has no HARM, whatever was ahead of it. */
     private static void newFolkIsUnhurt() {
         BrokenBread x = Check.upland(4, 4);
@@ -480,6 +503,35 @@ public final class EdgesOfDeedsTest {
             due("IV: HARMS, if it can; one that has that WEIGHT keeps its DAY, " + r[0], x.drawn(0, -1), r[1]);
             due("IV: its WEIGHT, " + r[0], x.drawn(1, 0), 5);
         }
+        BrokenBread y = Check.joined(2);
+        forced(y, "hungers 0;counts age - 1");
+        y.seasons(1432, 3);
+        due("IV: 0 HARMS 1 by 1 on DAY 0, on DAY 1 it can't, the FEAST is on DAY 2", y.drawn(0, -1), 7);
+        due("IV: the WEIGHT is that of DAY 0", y.drawn(0, 1), 1);
+        y.seasons(109, 3);
+        due("IV: 0 HARMS 1 by 3 on DAY 0, by 7 on DAY 1, on DAY 2 that is one DAY old", y.drawn(0, -1), 5);
+        due("IV: the WEIGHT is that of DAY 1", y.drawn(0, 1), 7);
+        due("IV: on paper", y.count(1), 0);
+    }
+
+    /** drawn() knows the FOLK that the latest SEASONS had, not those there are now. */
+    private static void folkOfDraws() {
+        BrokenBread x = Check.upland(9, 9);
+        x.image(0);
+        x.folk(9);
+        x.harm(2, 0, 4);
+        x.harm(0, 2, 5);
+        x.terms(0, 999);
+        due("37: at DAY 999", x.seasons(1, 1), 0);
+        x.folk(9);
+        due("38: one who came later", x.drawn(3, -1), -1);
+        due("38: to one who came later", x.drawn(0, 3), -1);
+        due("38: of one who came later", x.drawn(3, 0), -1);
+        x.back(0);
+        due("40: two are there", x.count(0), 2);
+        due("38: behind the latest SEASONS there are three", x.drawn(2, -1), 9);
+        due("38: the HARM of the third", x.drawn(2, 0), 4);
+        due("38: the HARM to the third", x.drawn(0, 2), 5);
     }
 
     private static void images() {
@@ -661,8 +713,15 @@ public final class EdgesOfDeedsTest {
         for (int k = 0; k < n; k++) {
             due("42: number " + k, told[k][1], told[k][2]);
         }
+        x.back(2);
+        due("42: back", x.status(), -1);
+        x.back(0);
+        due("42: back that was not, behind one that was", x.status(), 0);
         x.image(7);
         due("42: image", x.status(), -1);
+        x.image(1);
+        due("42: image that was not, behind one that was", x.status(), 0);
+        x.image(7);
         x.feed(1, 1, 1, 1, 1);
         x.end(0);
         x.crumbs();
@@ -679,6 +738,7 @@ public final class EdgesOfDeedsTest {
         emptyUpland();
         twoObjects();
         folkAndFed();
+        folkNotThere();
         newFolkIsUnhurt();
         terms();
         harms();
@@ -693,6 +753,7 @@ public final class EdgesOfDeedsTest {
         seasons();
         wrapOfDraws();
         harmsOfDraws();
+        folkOfDraws();
         images();
         imagesOfMostAndNothing();
         imagesOfHarmsAndSat();

@@ -89,6 +89,10 @@ public final class EdgesOfPaperTest {
         row("22: none in one set with somebody who BARS", x::newHarms, -1, -1, -1);
         forced(x, "bars if doer = 1");
         row("22: or is BARRED by the other", x::newHarms, -1, -1, -1);
+        forced(x, "bars if doer = 0 and other = 1");
+        row("22: the lower one BARS the higher one", x::newHarms, -1, -1, -1);
+        forced(x, "bars if doer = 1 and other = 0");
+        row("22: the higher one BARS the lower one", x::newHarms, -1, -1, -1);
         BrokenBread y = joined(4, 1, 23);
         forced(y, "bars if doer = 3 and other = 2");
         row("22: a BARRED two costs the others", y::newHarms, 2, 0, 1, 0, 1);
@@ -135,6 +139,8 @@ public final class EdgesOfPaperTest {
         row("24: all of them", i -> y.seat(7, i), 1, 0, 2, -1);
         forced(y, "counts 9 - weight");
         row("24: what COUNTS, without a HARM, too", i -> y.seat(7, i), 2, 0, 1, -1);
+        forced(y, "counts 0;counts 9 if doer = other and doer = 2");
+        row("24: each other one, not oneself", i -> y.seat(7, i), 0, 1, 2, -1);
     }
 
     private static void chains() {
@@ -167,6 +173,8 @@ public final class EdgesOfPaperTest {
         row("27: one two", i -> joined(2, 1).bridges(i - 1), 1, 1, -1);
         row("27: the last two of seven", i -> joined(7, 65).bridges(i - 1), 1, 56, -1);
         row("27: a star has the most", i -> joined(7, 60, 61, 62, 63, 64, 65).bridges(i - 1), 6, 6, 16, 26, 36, 46, 56, -1);
+        row("27: a star of the first", i -> joined(7, 1, 2, 3, 4, 5, 6).bridges(i - 1), 6, 1, 2, 3, 4, 5, 6, -1);
+        row("27: a star of one amidst", i -> joined(7, 3, 13, 23, 34, 35, 36).bridges(i - 1), 6, 3, 13, 23, 34, 35, 36, -1);
         row("27: none in a circle of three", i -> joined(3, 1, 12, 20).bridges(i - 1), 0, -1);
         row("27: rising", i -> joined(7, 65, 10, 43, 24, 23).bridges(i - 1), 2, 1, 56, -1);
         due("27: below NONE", joined(2, 1).bridges(-2), -1);
@@ -261,6 +269,10 @@ public final class EdgesOfPaperTest {
         row("32: two: half of them", w -> joined(2, 1).ask(0, w), 0, 1);
         row("32: FOLK who are not FITTING, too", w -> joined(5, 1, 2, 3, 31, 41).ask(1, w), 1, 1);
         row("32: more than half is as far as fewer", w -> joined(4, 3, 31, 32, 10).ask(0, w), 0, 2);
+        BrokenBread all = joined(3);
+        forced(all, "counts 1");
+        due("31: by a LAW by which all MAY, none of it itself", all.fitting(1), 6);
+        row("32: by a LAW by which all MAY, itself: it MAY not", w -> all.ask(1, w), 1, 1);
         BrokenBread y = joined(6, 50, 51, 52, 40, 41, 42, 30);
         row("32: all or none of three are alike, one is nearer", w -> y.ask(32, w), 3, 1);
     }
@@ -293,6 +305,9 @@ public final class EdgesOfPaperTest {
         forced(y, "hungers 9 if mood = 3;hungers 0 if mood < 3");
         y.terms(2, 3);
         due("33: by MOOD", y.lasts(0), 1);
+        BrokenBread z = Check.upland(8, 8, 8, 8, 8, 8, 8);
+        forced(z, "hungers doer + 1");
+        row("33: each as its own number tells", z::lasts, 8, 4, 3, 2, 2, 2, 2, -1);
     }
 
     private static void fedBy() {
@@ -317,6 +332,11 @@ public final class EdgesOfPaperTest {
         due("34: all seven at one", friends(7).fedBy(10), 1);
         due("34: a star of seven: six", joined(7, 60, 61, 62, 63, 64, 65).fedBy(10), 6);
         due("34: a line of seven", joined(7, 1, 12, 23, 34, 45, 56).fedBy(10), 4);
+        BrokenBread y = Check.upland(0, 0, 0, 0, 9, 0, 0);
+        for (int two : new int[] {1, 5, 15, 23, 26, 36, 56}) {
+            y.harm(two / 10, two % 10, 1);
+        }
+        due("34: the fewest, not with the last two at a TABLE of their own", y.fedBy(1), 2);
     }
 
     private static void few() {

@@ -156,6 +156,35 @@ public final class EdgesOfTextsTest {
         due("II: one amidst", y.asks(0, 1, 2), 5);
     }
 
+    /** What begins a CLAUSE of the one language begins none of the other; no other word does, either. */
+    private static void heads() {
+        String sentence = "II: what begins a CLAUSE";
+        String[] ofLaws = {"counts", "feeds", "hungers", "bars"};
+        String[] ofOrders = {"harm", "feast", "pardon", "pass"};
+        String[] ofNone = {"if", "times", "to", "by", "or", "and", "not", "doer", "other", "weight", "age", "fed", "size", "day",
+            "mood", "done", "latest", "harms", "starving", "at", "count", "harmed", "1", "[1]", "(1=1)", "="};
+        String[] behind = {"", " 1", " 1 if 1 = 1", " 1 to 0", " 1 to 0 by 1", " if 1 = 1"};
+        for (String b : behind) {
+            for (String head : ofOrders) {
+                law(sentence + " of ORDERS", head + b, 0);
+                law(sentence + " of ORDERS, the second", "bars;" + head + b, 5);
+            }
+            for (String head : ofLaws) {
+                orders(sentence + " of a LAW", head + b, 0);
+                orders(sentence + " of a LAW, the second", "pass;" + head + b, 5);
+            }
+            for (String head : ofNone) {
+                law(sentence + " of none", head + b, 0);
+                orders(sentence + " of none", head + b, 0);
+            }
+        }
+        law("II: \"bars\" has no SUM", "bars 1", 5);
+        orders("II: \"pass\" has no SUM", "pass 1", 5);
+        orders("II: \"pardon\" has no WEIGHT", "pardon 1 to 0 by 1", 14);
+        orders("II: \"feast\" is of a set alone", "feast 1 to 0", 8);
+        law("II: \"counts\" has one SUM", "counts 1 to 0", 9);
+    }
+
     private static void numbers() {
         String sentence = "II: NUMBER (to 1,000)";
         int[] good = {0, 1, 9, 10, 99, 100, 999, 1000};
@@ -739,6 +768,7 @@ public final class EdgesOfTextsTest {
         bytes();
         tokens();
         clauses();
+        heads();
         numbers();
         parts();
         brackets();
