@@ -113,9 +113,9 @@ public final class BrokenBread {
     private final Past pastAhead = new Past();
     private final Tape tape = new Tape();
     private final Reader reader = new Reader();
-    private final Judge judge = new Judge(live);
+    private final Judge judge = new Judge();
     private final Seating seating = new Seating();
-    private final Parting parting = new Parting(seating);
+    private final Parting parting = new Parting();
     private final Draws draws = new Draws();
     private final int[] orderWords = new int[ORDER_WORDS];
     private final long[] tripped = new long[MOST_TRIPPED];
@@ -323,14 +323,14 @@ public final class BrokenBread {
 
     public int tables(int what) {
         lookLive();
-        parting.intoTables();
+        parting.intoTables(seating);
         return parting.answer(what);
     }
 
     public int newHarms(int what) {
         lookLive();
         seating.lookAtBars(judge);
-        parting.intoSets();
+        parting.intoSets(seating);
         return parting.answer(what);
     }
 
@@ -1425,14 +1425,10 @@ public final class BrokenBread {
 
     /** Asks a LAW (null: no CLAUSE) of the FOLK of an upland; tells SUMS and TESTS of both languages. */
     private static final class Judge {
-        private Upland land;
+        private Upland land = new Upland();
         private Script law = null;
         private final int[] lawWords = new int[LAW_WORDS];
         private final long[] stack = new long[MOST_PARTS + 1];
-
-        Judge(Upland first) {
-            land = first;
-        }
 
         void look(Upland where, Script by) {
             land = where;
@@ -1919,7 +1915,6 @@ public final class BrokenBread {
 
     /** Tries all partings of the FOLK in the order of their rows of numbers; keeps the first of the cheapest. */
     private static final class Parting {
-        private final Seating seating;
         private boolean tablesOnly = false;
         private int folks = 0;
         private int cheapest = NONE;
@@ -1927,18 +1922,14 @@ public final class BrokenBread {
         private final int[] numbers = new int[MOST_FOLK];
         private final int[] first = new int[MOST_FOLK];
 
-        Parting(Seating asked) {
-            seating = asked;
-        }
-
-        void intoTables() {
+        void intoTables(Seating seating) {
             tablesOnly = true;
-            begin();
+            begin(seating);
         }
 
-        void intoSets() {
+        void intoSets(Seating seating) {
             tablesOnly = false;
-            begin();
+            begin(seating);
         }
 
         int answer(int what) {
@@ -1948,30 +1939,30 @@ public final class BrokenBread {
             return what == 0 ? cheapest : first[what - 1];
         }
 
-        private void begin() {
+        private void begin(Seating seating) {
             folks = seating.folks;
             cheapest = NONE;
-            place(0, 0, 0);
+            place(seating, 0, 0, 0);
         }
 
-        private void place(int p, int setCount, int newHarms) {
+        private void place(Seating seating, int p, int setCount, int newHarms) {
             if (p >= folks || p >= MOST_FOLK) {
                 keepIfCheaper(setCount, newHarms);
                 return;
             }
             for (int s = 0; s <= setCount && s < MOST_FOLK; s++) {
                 int with = s < setCount ? sets[s] : 0;
-                if (isAllowed(p, with)) {
+                if (isAllowed(seating, p, with)) {
                     sets[s] = with | 1 << p;
                     numbers[p] = s;
                     int harms = newHarms + Integer.bitCount(with & ~seating.mayOf(p));
-                    place(p + 1, Math.max(setCount, s + 1), harms);
+                    place(seating, p + 1, Math.max(setCount, s + 1), harms);
                     sets[s] = with;
                 }
             }
         }
 
-        private boolean isAllowed(int p, int with) {
+        private boolean isAllowed(Seating seating, int p, int with) {
             return tablesOnly ? (with & ~seating.mayOf(p)) == 0 : (with & seating.barsOf(p)) == 0;
         }
 

@@ -66,6 +66,11 @@ public final class LanguageTest {
         }
         CHECK.isSo(c + " has some twenty fields: " + fields, fields <= 20);
         CHECK.isSo(c + " is static", c == BrokenBread.class || Modifier.isStatic(c.getModifiers()));
+        for (Constructor<?> made : c.getDeclaredConstructors()) {
+            // What is handed to one while the object is made would be a part of that object (rule 12).
+            CHECK.isSo(made + " is handed numbers alone",
+                    Arrays.stream(made.getParameterTypes()).allMatch(Class::isPrimitive));
+        }
         for (Method m : c.getDeclaredMethods()) {
             CHECK.isSo(c + " " + m.getName() + " takes seven at most", m.getParameterCount() <= 7);
             boolean shown = c == BrokenBread.class && Modifier.isPublic(m.getModifiers());
